@@ -28,7 +28,9 @@ public final class StatuteClauses {
     /** What writeAll() answers of a fault at the text's first character. */
     private static final int FIRST_FAULT = -100;
 
-    private final Book now = new Book();
+    private final Judge judge = new Judge();
+    /** The present state: the book that the Judge judges. */
+    private final Book now = judge.book;
     private final Book snapshot = new Book();
     private boolean hasSnapshot = false;
     /** The oldest state is the first; those from pastSize on are free. */
@@ -37,7 +39,6 @@ public final class StatuteClauses {
     private final Text text = new Text();
     /** What was read from the text, ahead of being written. */
     private final Clauses draft = new Clauses();
-    private final Judge judge = new Judge(now);
     private final Painter painter = new Painter();
 
     public StatuteClauses() {
@@ -157,7 +158,6 @@ public final class StatuteClauses {
         return oldLength;
     }
 
-    /** Writes all clauses of the text or none, and returns how many the text has. */
     public int writeAll() {
         if (!text.readClauses(draft)) {
             return FIRST_FAULT - text.at;
@@ -312,7 +312,7 @@ public final class StatuteClauses {
         return judge.casesOfUnlikeVerdicts(chapter, other);
     }
 
-    /** Tells the clauses that rule no case on any day, as a set of bits. */
+    /** The answer is a set of bits: the bit k stands for the clause k. */
     public int idle() {
         int all = (1 << now.clauses.size) - 1;
         return all & ~judge.busyClauses();
@@ -592,17 +592,12 @@ public final class StatuteClauses {
 
     /** Finds who speaks and who rules, in rows that are used again for every case. */
     private static final class Judge {
-        final Book book;
-        final Clauses clauses;
+        final Book book = new Book();
+        final Clauses clauses = book.clauses;
         /** For each chapter the clause that silences its others, as findTops() found it. */
         final int[] tops = new int[CHAPTERS];
         /** For each clause how many cases it rules, as tallyToday() found it. */
         final int[] tally = new int[CLAUSE_ROOM];
-
-        Judge(Book judged) {
-            book = judged;
-            clauses = judged.clauses;
-        }
 
         /** One clause is passed over as if it was not there; NO_CLAUSE passes over none. */
         void findTops(int number, int day, int without) {

@@ -306,6 +306,7 @@ public final class PromisesTest {
         writeAllRoom();
         writeAllSpans();
         writeAllFaults();
+        writeAllAfterOthers();
     }
 
     private static void writeAllRoom() {
@@ -384,10 +385,27 @@ public final class PromisesTest {
         textDue("0@5:0-1=1,", -109);
         textDue("0@5:0-1=1;;", -110);
         textDue(";", -100);
+        textDue("19@", -101);
+        textDue("0@1009:", -105);
+        textDue("0@5:109-", -106);
+        textDue("0@5:0-109", -108);
+        textDue("0@5:0-1=19", -109);
         StatuteClauses x = book();
         written(x, "0@0:0-0=0x");
         history(x, 0);
         due("count(1)", x.count(1), 0);
+    }
+
+    /** What an earlier text left must not be read again. */
+    private static void writeAllAfterOthers() {
+        StatuteClauses x = book();
+        due("a whole text", written(x, "0@0:0-0=0"), 1);
+        due("its beginning alone", written(x, "0@0"), -103);
+        due("its beginning with a sign", written(x, "0@0:"), -104);
+        due("a reversed exception", written(x, "0@0:0-9=1!2-1"), BAD_VALUE);
+        due("none", written(x, "0@0:0-9=1"), 1);
+        due("clause(1, 6)", x.clause(1, 6), 0);
+        due("count(1)", x.count(1), 2);
     }
 
     private static void undo() {
@@ -422,6 +440,43 @@ public final class PromisesTest {
         x.undo();
         due("undone clause", x.clause(1, 0), UNKNOWN);
         failuresRecordNothing();
+        undoGoesBackInOrder();
+        undoneClausesLeaveNothing();
+    }
+
+    private static void undoGoesBackInOrder() {
+        StatuteClauses x = book();
+        for (int day = 1; day <= 9; day++) {
+            x.setDay(day);
+        }
+        for (int left = 3; left >= 0; left--) {
+            due("undo()", x.undo(), left);
+            due("today", x.count(0), left + 5);
+        }
+        due("undo()", x.undo(), NONE);
+        x.setDay(17);
+        due("undo()", x.undo(), 0);
+        due("today", x.count(0), 5);
+    }
+
+    private static void undoneClausesLeaveNothing() {
+        StatuteClauses x = book();
+        x.write(2, 0, 0, 9, 0);
+        x.except(0, 3, 4);
+        x.undo();
+        x.undo();
+        due("clauses of chapter 2", x.chapter(2, 3), 0);
+        due("of them in force", x.chapter(2, 4), 0);
+        for (int what = 0; what <= 8; what++) {
+            due("count(" + what + ")", x.count(what), 0);
+        }
+        due("changesOn(0, 0)", x.changesOn(0, 0), NONE);
+        written(x, "2@0:0-9=0!3-4");
+        x.undo();
+        due("count(5)", x.count(5), 0);
+        x.write(3, 1, 0, 9, 5);
+        due("exceptions of the next one", x.clause(0, 6), 0);
+        due("its ruling", x.ruling(3, 1, 1), 0);
     }
 
     private static void failuresRecordNothing() {
@@ -493,6 +548,35 @@ public final class PromisesTest {
         due("clauses", x.count(1), 2);
         due("today", x.count(0), 9);
         due("the snapshot stays", x.restore(), 1);
+        restoreBringsWholeClauses();
+    }
+
+    private static void restoreBringsWholeClauses() {
+        StatuteClauses x = book();
+        x.write(2, 7, 10, 40, 6);
+        x.except(0, 20, 25);
+        x.end(0, 70);
+        x.keep();
+        x.undo();
+        x.undo();
+        x.undo();
+        x.write(3, 8, 50, 90, 0);
+        x.except(0, 60, 61);
+        x.except(0, 70, 71);
+        due("restore()", x.restore(), 1);
+        int[] told = {2, 7, 70, 10, 40, 6, 1};
+        for (int what = 0; what < told.length; what++) {
+            due("clause(0, " + what + ")", x.clause(0, what), told[what]);
+        }
+        due("ahead of the exception", x.ruling(19, 7, 1), 0);
+        due("the exception's first", x.ruling(20, 7, 1), NONE);
+        due("the exception's last", x.ruling(25, 7, 1), NONE);
+        due("behind the exception", x.ruling(26, 7, 1), 0);
+        x.undo();
+        int[] other = {3, 8, 1000, 50, 90, 0, 2};
+        for (int what = 0; what < other.length; what++) {
+            due("clause(0, " + what + ") after undo()", x.clause(0, what), other[what]);
+        }
     }
 
     /** Clauses that several of the next promises are held against, on day 50. */
@@ -597,6 +681,13 @@ public final class PromisesTest {
         due("painted(22, 60)", x.painted(22, 60), 4);
         x.exchange(1, 3);
         due("painted(5, 50), ranks exchanged", x.painted(5, 50), 0);
+        StatuteClauses y = book();
+        y.write(0, 9, 0, 9, 1);
+        y.write(0, 5, 0, 9, 1);
+        y.write(0, 7, 0, 9, 1);
+        due("painted(0, 9), the latest date first", y.painted(0, 9), 0);
+        due("painted(0, 8)", y.painted(0, 8), 2);
+        due("painted(0, 6)", y.painted(0, 6), 1);
         due("painted(-1, 0)", x.painted(-1, 0), UNKNOWN);
         due("painted(100, 0)", x.painted(100, 0), UNKNOWN);
         due("painted(0, -1)", x.painted(0, -1), UNKNOWN);
@@ -727,6 +818,10 @@ public final class PromisesTest {
         due("rules on the last day alone", y.idle(), 0);
         y.setDay(5);
         due("today does not matter", y.idle(), 0);
+        StatuteClauses ends = book();
+        ends.write(0, 0, 0, 0, 1);
+        ends.write(1, 0, 99, 99, 1);
+        due("one rules the first case alone, one the last", ends.idle(), 0);
         StatuteClauses z = book();
         for (int k = 0; k < 30; k++) {
             z.write(0, 0, 0, 99, 0);
@@ -734,6 +829,7 @@ public final class PromisesTest {
         due("all thirty", z.idle(), (1 << 30) - 1);
         z.setReach(0, 0, 0);
         history(z, 4);
+        due("count(6) of thirty", z.count(6), 30);
     }
 
     private static void ifGone() {
@@ -767,6 +863,19 @@ public final class PromisesTest {
         y.end(2, 1);
         y.setDay(1);
         due("no case has a ruling", y.weightiest(), NONE);
+        StatuteClauses z = book();
+        for (int k = 0; k < 30; k++) {
+            z.write(k % 6, 0, k, k, 1);
+        }
+        due("all alike in a full book", z.weightiest(), 0);
+        due("cases that have a ruling", z.count(3), 30);
+        due("cases that chapter 5 rules", z.chapter(5, 5), 5);
+        z.except(0, 0, 0);
+        due("a single case is enough", z.weightiest(), 1);
+        z.setReach(5, 99, 99);
+        due("its ruled cases", z.clause(29, 9), 0);
+        due("ifGone(28)", z.ifGone(28), 1);
+        due("idle()", z.idle(), 1 | 1 << 5 | 1 << 11 | 1 << 17 | 1 << 23 | 1 << 29);
     }
 
     private static void count() {
