@@ -1,48 +1,5 @@
 /** One method for each promise: ordinary inputs, edges, wrong inputs. */
-public final class PromisesTest {
-    private static final int UNKNOWN = -1;
-    private static final int BAD_VALUE = -2;
-    private static final int FULL = -3;
-    private static final int NOT_POSSIBLE = -4;
-    private static final int NONE = -5;
-    private static final int LEAST = Integer.MIN_VALUE;
-    private static final int MOST = Integer.MAX_VALUE;
-
-    private static int wrong = 0;
-    private static String promise = "";
-
-    private static void due(String call, int got, int want) {
-        if (got != want) {
-            wrong++;
-            System.out.println(promise + ": " + call + " answered " + got + ", due is " + want);
-        }
-    }
-
-    private static StatuteClauses book() {
-        return new StatuteClauses();
-    }
-
-    private static void typeAll(StatuteClauses x, String text) {
-        x.clearText();
-        for (int i = 0; i < text.length(); i++) {
-            due("type of sign " + i + " of " + text, x.type(text.charAt(i)), i + 1);
-        }
-    }
-
-    private static int written(StatuteClauses x, String text) {
-        typeAll(x, text);
-        return x.writeAll();
-    }
-
-    /** What a text answers on a new book. */
-    private static void textDue(String text, int want) {
-        due("writeAll() of \"" + text + "\"", written(book(), text), want);
-    }
-
-    private static void history(StatuteClauses x, int states) {
-        due("count(7)", x.count(7), states);
-    }
-
+public final class PromisesTest extends Dues {
     private static void newObject() {
         due("UNKNOWN", StatuteClauses.UNKNOWN, -1);
         due("BAD_VALUE", StatuteClauses.BAD_VALUE, -2);
@@ -891,11 +848,6 @@ public final class PromisesTest {
         due("count(most)", x.count(MOST), BAD_VALUE);
     }
 
-    private static void run(int number, Runnable test) {
-        promise = "promise " + number;
-        test.run();
-    }
-
     public static void main(String[] args) {
         Runnable[] tests = {
             PromisesTest::newObject, PromisesTest::setReach, PromisesTest::exchange, PromisesTest::write,
@@ -907,11 +859,8 @@ public final class PromisesTest {
             PromisesTest::count,
         };
         for (int i = 0; i < tests.length; i++) {
-            run(i + 1, tests[i]);
+            run("promise " + (i + 1), tests[i]);
         }
-        System.out.println(wrong == 0 ? "all answers are as due" : wrong + " answers are not as due");
-        if (wrong != 0) {
-            System.exit(1);
-        }
+        finish();
     }
 }
