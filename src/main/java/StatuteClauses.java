@@ -631,7 +631,8 @@ public final class StatuteClauses {
         }
 
         int ruler(int number, int day) {
-            return rulerWithout(NO_CLAUSE, number, day);
+            findTops(number, day, NO_CLAUSE);
+            return rulerOfTops();
         }
 
         int rulerWithout(int clause, int number, int day) {
